@@ -1,0 +1,177 @@
+/** Promises 25 and 26: undo and digest. */
+final class StateTests {
+    private StateTests() {
+    }
+
+    static void run() {
+        Check.test("promise 25: undo, at most 4 states", StateTests::promise25);
+        Check.test("promise 25: undo of each undoable call", StateTests::promise25Calls);
+        Check.test("promise 25: undo, what saves no state", StateTests::promise25NotSaved);
+        Check.test("promise 25: undo leaves the text", StateTests::promise25Text);
+        Check.test("promise 26: digest", StateTests::promise26);
+    }
+
+    private static void promise25() {
+        CamDrum drum = new CamDrum();
+        Check.refusesState(drum, drum::undo);
+        for (int dwell = 5; dwell <= 11; dwell++) {
+            drum.setPawl(dwell, dwell);
+        }
+        for (int left = 3; left >= 0; left--) {
+            Check.same("undo()", drum.undo(), left);
+            Check.same("dwell", drum.value(3), 7 + left);
+        }
+        Check.refusesState(drum, drum::undo);
+        drum.setPawl(15, 0);
+        drum.setPawl(16, 0);
+        Check.same("undo()", drum.undo(), 1);
+        drum.setPawl(17, 0);
+        Check.same("undo()", drum.undo(), 1);
+        Check.same("dwell", drum.value(3), 15);
+        Check.same("undo()", drum.undo(), 0);
+        Check.same("dwell", drum.value(3), 7);
+    }
+
+    private static CamDrum busy() {
+        CamDrum drum = Check.drumOf("n6;0:xx....;1:.xx...;2:x.x.x.;");
+        drum.setCylinder(0, 3, 31, 5);
+        drum.setAir(1200, 33);
+        drum.addGuard(1, 0, 40);
+        drum.addGuard(2, 1, 20);
+        drum.setPawl(3, 1000);
+        drum.run(44);
+        return drum;
+    }
+
+    private static void promise25Calls() {
+        Check.Body[] calls = new Check.Body[9];
+        CamDrum drum = busy();
+        calls[0] = () -> drum.setCam(4, 4, true);
+        calls[1] = () -> drum.setPawl(1, 1);
+        calls[2] = () -> drum.setCylinder(2, 9, 1, 3);
+        calls[3] = () -> drum.setAir(300, 1);
+        calls[4] = () -> drum.addGuard(4, 0, 5);
+        calls[5] = () -> drum.removeGuard(0);
+        calls[6] = () -> drum.turn(5);
+        calls[7] = () -> drum.run(101);
+        calls[8] = drum::parse;
+        Check.tell(drum, "n7;");
+        for (Check.Body call : calls) {
+            String before = StateTests.told(drum);
+            Check.same("what the call throws", Check.thrownBy(call), "nothing");
+            Check.same("the call changes something", told(drum).equals(before), false);
+            Check.same("undo()", drum.undo(), 3);
+            Check.same("all answers behind undo()", told(drum), before);
+            // So that the next round begins with 4 states again.
+            drum.turn(drum.value(1));
+        }
+    }
+
+    /** All that the face tells of the state, but for the saved states. */
+    private static String told(CamDrum drum) {
+        StringBuilder all = new StringBuilder();
+        for (int what = 0; what < 16; what++) {
+            all.append(drum.value(what)).append(' ');
+        }
+        for (int c = 0; c < 5; c++) {
+            for (int what = 0; what < 8; what++) {
+                all.append(drum.cylinder(c, what)).append(' ');
+            }
+        }
+        for (int g = 0; g < drum.value(8); g++) {
+            for (int what = 0; what < 4; what++) {
+                all.append(drum.guard(g, what)).append(' ');
+            }
+        }
+        for (int step = 0; step < drum.value(0); step++) {
+            all.append(drum.skips(step)).append(' ');
+            for (int c = 0; c < 5; c++) {
+                all.append(drum.cam(c, step)).append(drum.chart(c, step)).append(' ');
+            }
+        }
+        return all.toString();
+    }
+
+    private static void promise25NotSaved() {
+        CamDrum drum = new CamDrum();
+        drum.turn(3);
+        Check.tell(drum, "q");
+        drum.parse();
+        drum.clearText();
+        drum.digest();
+        drum.useful();
+        drum.repeats();
+        drum.chart(0, 0);
+        Check.thrownBy(() -> drum.setCam(9, 9, true));
+        Check.thrownBy(() -> drum.run(0));
+        Check.same("undo()", drum.undo(), 0);
+        Check.same("step", drum.value(1), 0);
+        CamDrum unchanging = new CamDrum();
+        unchanging.turn(0);
+        unchanging.setPawl(4, 100);
+        unchanging.setAir(2000, 50);
+        unchanging.parse();
+        Check.same("calls that change nothing save a state, too", unchanging.undo(), 3);
+    }
+
+    private static void promise25Text() {
+        CamDrum drum = new CamDrum();
+        Check.tell(drum, "0:x");
+        drum.turn(3);
+        drum.append('x');
+        drum.undo();
+        Check.same("the text stays", drum.append('x'), 5);
+        drum.turn(3);
+        drum.clearText();
+        drum.undo();
+        Check.same("the text stays empty", drum.clearText(), 0);
+    }
+
+    /** The document's formula, by the answers of the face. */
+    private static long formula(CamDrum drum, int textLength, int saved) {
+        long h = 3467;
+        h = 31 * h + textLength;
+        for (int what = 0; what <= 15; what++) {
+            h = 31 * h + drum.value(what);
+        }
+        for (int c = 0; c <= 4; c++) {
+            for (int what = 0; what <= 7; what++) {
+                h = 31 * h + drum.cylinder(c, what);
+            }
+        }
+        for (int g = 0; g < drum.value(8); g++) {
+            for (int what = 0; what <= 3; what++) {
+                h = 31 * h + drum.guard(g, what);
+            }
+        }
+        for (int step = 0; step < drum.value(0); step++) {
+            h = 31 * h + drum.skips(step);
+            for (int c = 0; c <= 4; c++) {
+                h = 31 * h + (drum.cam(c, step) ? 1 : 0);
+                h = 31 * h + drum.chart(c, step);
+            }
+        }
+        h = 31 * h + drum.ticksToCycle();
+        return 31 * h + saved;
+    }
+
+    private static void promise26() {
+        CamDrum drum = new CamDrum();
+        Check.same("of a new drum", drum.digest(), formula(drum, 0, 0));
+        Check.same("again", drum.digest(), formula(drum, 0, 0));
+        drum.append(0);
+        drum.append(1);
+        Check.same("with a text", drum.digest(), formula(drum, 2, 0));
+        drum.turn(7);
+        Check.same("with a saved state", drum.digest(), formula(drum, 2, 1));
+        CamDrum busy = busy();
+        Check.same("of a busy drum", busy.digest(), formula(busy, 30, 4));
+        busy.undo();
+        busy.undo();
+        Check.same("behind undo()", busy.digest(), formula(busy, 30, 2));
+        busy.setPawl(1, 5000);
+        busy.run(20);
+        Check.same("without a next cycle", busy.ticksToCycle(), CamDrum.NONE);
+        Check.same("without a next cycle", busy.digest(), formula(busy, 30, 4));
+    }
+}
