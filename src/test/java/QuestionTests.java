@@ -151,6 +151,10 @@ final class QuestionTests {
         Check.tell(slow, "3:x.......;");
         slow.parse();
         Check.same("20 moves at step 0", slow.shortestDwell(), CamDrum.NONE);
+        CamDrum quick = Check.drumOf("0:.x......;");
+        quick.setCylinder(0, 1, 33, 0);
+        quick.run(4);
+        Check.same("4 moves, as 3 make 99", quick.shortestDwell(), 4);
         CamDrum poor = Check.drumOf("0:.x......;");
         poor.setPawl(4, 0);
         poor.setAir(100, 10);

@@ -207,7 +207,7 @@ final class SettingTests {
     private static void promise7() {
         CamDrum drum = new CamDrum();
         for (int g = 0; g < 4; g++) {
-            drum.addGuard(g, 4, 10 + g);
+            drum.addGuard(g, g + 1, 10 + g);
         }
         long before = drum.digest();
         Check.same("left", drum.removeGuard(1), 3);
@@ -215,7 +215,7 @@ final class SettingTests {
         int[] due = {0, 2, 3};
         for (int g = 0; g < 3; g++) {
             Check.same("guarded", drum.guard(g, 0), due[g]);
-            Check.same("other", drum.guard(g, 1), 4);
+            Check.same("other", drum.guard(g, 1), due[g] + 1);
             Check.same("bound", drum.guard(g, 2), 10 + due[g]);
         }
         Check.undone(drum, before, 4);

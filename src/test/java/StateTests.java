@@ -30,6 +30,17 @@ final class StateTests {
         Check.same("dwell", drum.value(3), 15);
         Check.same("undo()", drum.undo(), 0);
         Check.same("dwell", drum.value(3), 7);
+        for (int saves = 1; saves <= 9; saves++) {
+            CamDrum each = new CamDrum();
+            for (int dwell = 5; dwell < 5 + saves; dwell++) {
+                each.setPawl(dwell, 0);
+            }
+            for (int left = Math.min(saves, 4) - 1; left >= 0; left--) {
+                Check.same("undo()", each.undo(), left);
+            }
+            Check.same("dwell behind all undos", each.value(3), Math.max(4, saves));
+            Check.refusesState(each, each::undo);
+        }
     }
 
     private static CamDrum busy() {
