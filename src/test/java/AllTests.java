@@ -11,6 +11,12 @@ public final class AllTests {
         QuestionTests.run();
         TextTests.run();
         StateTests.run();
+        SettingEdgeTests.run();
+        TickEdgeTests.run();
+        AnswerEdgeTests.run();
+        QuestionEdgeTests.run();
+        TextEdgeTests.run();
+        StateEdgeTests.run();
         ReferenceTests.run();
         System.out.println("project: " + Check.passed() + " passed, " + Check.failed() + " failed");
         if (Check.failed() > 0 || Check.passed() == 0) {

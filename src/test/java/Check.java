@@ -1,10 +1,14 @@
+import java.util.HashSet;
 import java.util.Objects;
+import java.util.Set;
 
 /** Runs tests by name and counts them. */
 final class Check {
     interface Body {
         void run() throws Exception;
     }
+
+    private static final Set<String> NAMES = new HashSet<>();
 
     private static int passed;
     private static int failed;
@@ -14,6 +18,7 @@ final class Check {
 
     static void test(String name, Body body) {
         try {
+            same("a test's name is its own: " + name, NAMES.add(name), true);
             body.run();
             passed++;
             System.out.println("ok      " + name);
@@ -21,7 +26,7 @@ final class Check {
             failed++;
             System.out.println("FAILED  " + name + ": " + e);
             for (StackTraceElement line : e.getStackTrace()) {
-                if (line.getMethodName().startsWith("promise") || line.getMethodName().startsWith("lambda")) {
+                if (line.getClassName().endsWith("Tests")) {
                     System.out.println("        at " + line);
                 }
             }
@@ -101,6 +106,36 @@ final class Check {
         for (int c = 0; c < due.length; c++) {
             same("cylinder(" + c + ", 0)", drum.cylinder(c, 0), due[c]);
         }
+    }
+
+    /**
+     * A drum with the first cylinders out by so much: it stands at step 0 with the greatest dwell, these cylinders
+     * have cams there, size 1, speed 50 and no leak; there are some 2000 of air and a compressor of 500.
+     */
+    static CamDrum rods(int... outs) {
+        CamDrum drum = new CamDrum();
+        drum.setPawl(20, 0);
+        drum.setAir(9999, 500);
+        for (int c = 0; c < outs.length; c++) {
+            halfway(drum, c, outs[c] / 2);
+        }
+        drum.run(1);
+        for (int c = 0; c < outs.length; c++) {
+            halfway(drum, c, outs[c] - outs[c] / 2);
+        }
+        drum.run(1);
+        outs(drum, outs);
+        for (int c = 0; c < outs.length; c++) {
+            drum.setCam(c, 0, true);
+            drum.setCylinder(c, 1, 50, 0);
+        }
+        return drum;
+    }
+
+    // A speed of 0 cannot be told: what should not move has no cam, and is in.
+    private static void halfway(CamDrum drum, int cylinder, int far) {
+        drum.setCam(cylinder, 0, far > 0);
+        drum.setCylinder(cylinder, 1, Math.max(far, 1), 0);
     }
 
     /** Takes the latest call back: the digest is as before it, but for the state that was dropped if there were 4. */

@@ -139,7 +139,7 @@ final class StateTests {
     }
 
     /** The document's formula, by the answers of the face. */
-    private static long formula(CamDrum drum, int textLength, int saved) {
+    static long formula(CamDrum drum, int textLength, int saved) {
         long h = 3467;
         h = 31 * h + textLength;
         for (int what = 0; what <= 15; what++) {
