@@ -109,8 +109,10 @@ final class AnswerEdgeTests {
                 Twins.rangeOn(() -> Twins.withGuards(count), 0, count - 1, Twins.INDEX, (drum, g) -> drum.guard(g, 3));
             }
         });
-        Check.test("promise 12, guard: what is 0 to 3",
-                () -> Twins.rangeOn(() -> Twins.withGuards(4), 0, 3, Twins.ARGUMENT, (drum, what) -> drum.guard(3, what)));
+        Check.test("promise 12, guard: what is 0 to 3", () -> {
+            Twins.Maker four = () -> Twins.withGuards(4);
+            Twins.rangeOn(four, 0, 3, Twins.ARGUMENT, (drum, what) -> drum.guard(3, what));
+        });
         Check.test("promise 12, guard: no such guard is listed ahead of what out of range", () -> {
             Twins.refused(Twins.INDEX, drum -> drum.guard(2, 4));
             Twins.refusedOn(() -> Twins.withGuards(4), Twins.INDEX, drum -> drum.guard(4, -1));

@@ -82,7 +82,7 @@ final class QuestionEdgeTests {
             Check.same("1000 ticks", cycleAt(1000).ticksToCycle(), 1000);
             Check.same("1001 ticks", cycleAt(1001).ticksToCycle(), CamDrum.NONE);
         });
-        Check.test("promise 17, ticksToCycle: the fewest steps and the shortest dwell, the most and the longest", () -> {
+        Check.test("promise 17, ticksToCycle: fewest steps and shortest dwell, most and longest", () -> {
             CamDrum few = Check.drumOf("n2;");
             few.setPawl(1, 0);
             Check.same("ticksToCycle()", few.ticksToCycle(), 2);
@@ -157,7 +157,7 @@ final class QuestionEdgeTests {
     }
 
     private static void leastCompressorTicks() {
-        Check.test("promise 18, leastCompressor: a skip in the last of the ticks counts, one behind it does not", () -> {
+        Check.test("promise 18, leastCompressor: a skip in the last of the ticks counts, one later does not", () -> {
             CamDrum drum = withPawl(20, 5000);
             Check.same("a tick ahead of the pawl's try", drum.leastCompressor(19), 0);
             Check.same("the tick of it", drum.leastCompressor(20), 200);
@@ -200,7 +200,7 @@ final class QuestionEdgeTests {
             Check.same("17 moves by 6", dwellFor("x.......", 6), 18);
             Check.same("20 moves by 5", dwellFor("x.......", 5), CamDrum.NONE);
         });
-        Check.test("promise 19, shortestDwell: all ticks of two steps, one behind the other, do not help the first", () ->
+        Check.test("promise 19, shortestDwell: a cam at the next step, too, does not help the first", () ->
                 Check.same("5 moves by 20, one tick shorter", dwellFor("xx......", 20), 6));
         Check.test("promise 19, shortestDwell: the going on to step 0 at the end counts, too", () -> {
             Check.same("20 moves by 5 at the last step", dwellFor(".......x", 5), 20);
@@ -239,11 +239,12 @@ final class QuestionEdgeTests {
         });
         Check.test("promise 19, shortestDwell: the tank is as it is, just enough and one too little", () -> {
             CamDrum drum = Check.rods(0);
-            drum.setAir(200, 0);
-            Check.same("200 are enough for 100", drum.shortestDwell(), 3);
             drum.setCylinder(0, 2, 50, 0);
+            drum.setAir(200, 0);
+            drum.setAir(2000, 0);
             Check.same("200 are enough for 2 * 100", drum.shortestDwell(), 3);
             drum.setAir(199, 0);
+            drum.setAir(2000, 0);
             Check.same("199 are not", drum.shortestDwell(), CamDrum.NONE);
         });
         Check.test("promise 19, shortestDwell: a guard that leaves a rod at 99", () -> {
@@ -283,14 +284,33 @@ final class QuestionEdgeTests {
         return drum;
     }
 
-    /** Cylinder 4 moves out by 1 a tick, a cycle is two ticks; the tank is full behind each tick without a move. */
-    private static CamDrum outBy(int ticks) {
-        CamDrum drum = Check.drumOf("n2;4:xx;");
+    /** This cylinder moves out by 1 a tick, a cycle is two ticks; the tank is full behind each tick without a move. */
+    private static CamDrum outBy(int cylinder, int ticks) {
+        CamDrum drum = Check.drumOf("n2;" + cylinder + ":xx;");
         drum.setPawl(1, 0);
-        drum.setCylinder(4, 1, 1, 0);
+        drum.setCylinder(cylinder, 1, 1, 0);
         drum.setAir(1000, 500);
         drum.run(ticks);
-        Check.outs(drum, 0, 0, 0, 0, ticks);
+        Check.same("how far out", drum.cylinder(cylinder, 0), ticks);
+        return drum;
+    }
+
+    /**
+     * When the drum goes on at last, in the tick of this number and in each tick from there on, it is behind each two
+     * ticks as it was ahead of them: cylinder 0 has moved in by 1 and out again, cylinder 1 the other way round.
+     */
+    private static CamDrum asBeforeFrom(int tick) {
+        CamDrum drum = Check.drumOf("n2;0:x.;1:.x;");
+        drum.setPawl(1, 5000);
+        drum.setAir(9999, 0);
+        drum.setCylinder(0, 1, 50, 0);
+        drum.run(2);
+        Check.outs(drum, 100, 0);
+        // At step 0 the compressor makes 2 and the leak takes 1: the pawl's try in tick t finds 901 + t.
+        drum.setCylinder(0, 1, 1, 1);
+        drum.setCylinder(1, 2, 1, 0);
+        drum.setAir(9999, 2);
+        drum.setPawl(1, 901 + tick);
         return drum;
     }
 
@@ -304,12 +324,20 @@ final class QuestionEdgeTests {
             Check.same("the first at 2001", roundFrom(2000).repeats(), false);
             Check.same("none", roundFrom(3999).repeats(), false);
         });
-        Check.test("promise 20, repeats: a cylinder that is out by 98 and then by 100, with the same tank", () ->
-                Check.same("repeats()", outBy(96).repeats(), false));
+        Check.test("promise 20, repeats: as at the end of the 2000 ticks, but over behind them", () -> {
+            Check.same("cycles over at 1998 and 2000", asBeforeFrom(1997).repeats(), true);
+            Check.same("at 1999 and 2001", asBeforeFrom(1998).repeats(), false);
+            Check.same("at 2002 and 2004", asBeforeFrom(2001).repeats(), false);
+        });
+        Check.test("promise 20, repeats: each cylinder, out by 98 and then by 100, with the same tank", () -> {
+            for (int c = 0; c < 5; c++) {
+                Check.same("repeats()", outBy(c, 96).repeats(), false);
+            }
+        });
         Check.test("promise 20, repeats: a tank one below and then full, with the same cylinders", () ->
-                Check.same("repeats()", outBy(98).repeats(), false));
+                Check.same("repeats()", outBy(4, 98).repeats(), false));
         Check.test("promise 20, repeats: cylinders all the way out and a full tank", () ->
-                Check.same("repeats()", outBy(100).repeats(), true));
+                Check.same("repeats()", outBy(4, 100).repeats(), true));
         Check.test("promise 20, repeats: a tank that is two fuller a cycle later", () -> {
             CamDrum drum = Check.drumOf("n2;");
             drum.setPawl(1, 0);

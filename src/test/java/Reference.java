@@ -111,7 +111,7 @@ final class Reference {
             return Math.max(reach, rods.get(index).out);
         }
 
-            void tick() {
+        void tick() {
             ticks++;
             tank += compressor;
             made += compressor;

@@ -55,26 +55,25 @@ final class StateTests {
     }
 
     private static void promise25Calls() {
-        Check.Body[] calls = new Check.Body[9];
-        CamDrum drum = busy();
-        calls[0] = () -> drum.setCam(4, 4, true);
-        calls[1] = () -> drum.setPawl(1, 1);
-        calls[2] = () -> drum.setCylinder(2, 9, 1, 3);
-        calls[3] = () -> drum.setAir(300, 1);
-        calls[4] = () -> drum.addGuard(4, 0, 5);
-        calls[5] = () -> drum.removeGuard(0);
-        calls[6] = () -> drum.turn(5);
-        calls[7] = () -> drum.run(101);
-        calls[8] = drum::parse;
-        Check.tell(drum, "n7;");
-        for (Check.Body call : calls) {
-            String before = StateTests.told(drum);
-            Check.same("what the call throws", Check.thrownBy(call), "nothing");
+        Twins.Call[] calls = {
+            drum -> drum.setCam(4, 4, true),
+            drum -> drum.setPawl(1, 1),
+            drum -> drum.setCylinder(2, 9, 1, 3),
+            drum -> drum.setAir(300, 1),
+            drum -> drum.addGuard(4, 0, 5),
+            drum -> drum.removeGuard(0),
+            drum -> drum.turn(5),
+            drum -> drum.run(101),
+            CamDrum::parse,
+        };
+        for (Twins.Call call : calls) {
+            CamDrum drum = busy();
+            Check.tell(drum, "n7;");
+            String before = told(drum);
+            call.on(drum);
             Check.same("the call changes something", told(drum).equals(before), false);
             Check.same("undo()", drum.undo(), 3);
             Check.same("all answers behind undo()", told(drum), before);
-            // So that the next round begins with 4 states again.
-            drum.turn(drum.value(1));
         }
     }
 
@@ -170,19 +169,21 @@ final class StateTests {
         CamDrum drum = new CamDrum();
         Check.same("of a new drum", drum.digest(), formula(drum, 0, 0));
         Check.same("again", drum.digest(), formula(drum, 0, 0));
-        drum.append(0);
-        drum.append(1);
-        Check.same("with a text", drum.digest(), formula(drum, 2, 0));
-        drum.turn(7);
-        Check.same("with a saved state", drum.digest(), formula(drum, 2, 1));
+        CamDrum told = new CamDrum();
+        told.append(0);
+        told.append(1);
+        Check.same("with a text", told.digest(), formula(told, 2, 0));
+        told.turn(7);
+        Check.same("with a saved state", told.digest(), formula(told, 2, 1));
         CamDrum busy = busy();
         Check.same("of a busy drum", busy.digest(), formula(busy, 30, 4));
         busy.undo();
         busy.undo();
         Check.same("behind undo()", busy.digest(), formula(busy, 30, 2));
-        busy.setPawl(1, 5000);
-        busy.run(20);
-        Check.same("without a next cycle", busy.ticksToCycle(), CamDrum.NONE);
-        Check.same("without a next cycle", busy.digest(), formula(busy, 30, 4));
+        CamDrum endless = busy();
+        endless.setPawl(1, 5000);
+        endless.run(20);
+        Check.same("without a next cycle", endless.ticksToCycle(), CamDrum.NONE);
+        Check.same("without a next cycle", endless.digest(), formula(endless, 30, 4));
     }
 }

@@ -1,6 +1,8 @@
 /** The edges of promises 22 to 24 and of the term Text: each place where a byte cannot stand, and what parse() does. */
 final class TextEdgeTests {
     private static final String DIGITS = "0123456789";
+    // 100 bytes that can be read: what a refused call has changed in them is seen by parse().
+    private static final String FULL = "n03;" + repeated("0:x.x;", 16);
 
     private TextEdgeTests() {
     }
@@ -63,12 +65,13 @@ final class TextEdgeTests {
             }
         });
         Check.test("terms, Text: at most 100 bytes; the 100th is taken, one more is not", () -> {
-            Twins.takenOn(() -> told(repeated("x", 99)), drum -> drum.append('x'));
-            Twins.refusedOn(() -> told(repeated("x", 100)), Twins.STATE, drum -> drum.append('x'));
+            Twins.takenOn(() -> told(FULL.substring(1)), drum -> drum.append(';'));
+            Twins.refusedOn(() -> told(FULL), Twins.STATE, drum -> drum.append(';'));
+            Twins.refusedOn(() -> told(FULL), Twins.STATE, drum -> drum.append(0));
         });
         Check.test("promise 22, append: no byte is listed ahead of a text of 100 bytes", () -> {
-            Twins.refusedOn(() -> told(repeated("x", 100)), Twins.ARGUMENT, drum -> drum.append(128));
-            Twins.refusedOn(() -> told(repeated("x", 100)), Twins.ARGUMENT, drum -> drum.append(-1));
+            Twins.refusedOn(() -> told(FULL), Twins.ARGUMENT, drum -> drum.append(128));
+            Twins.refusedOn(() -> told(FULL), Twins.ARGUMENT, drum -> drum.append(-1));
         });
         Check.test("promise 22, append: not undoable", () -> Twins.savesNothing(drum -> drum.append(0)));
     }
@@ -191,8 +194,9 @@ final class TextEdgeTests {
             boolean fault = new CamDrumOf(text).answer == -10 - beginning.length();
             boolean faultWithMore = new CamDrumOf(text + ";0").answer == -10 - beginning.length();
             boolean due = allowed.indexOf(value) < 0;
-            Check.same("byte " + value + " behind " + beginning + " is a fault", fault, due);
-            Check.same("byte " + value + " behind " + beginning + " is a fault with more behind it", faultWithMore, due);
+            String where = "byte " + value + " behind " + beginning + " is a fault";
+            Check.same(where, fault, due);
+            Check.same(where + " with more behind it", faultWithMore, due);
         }
     }
 
@@ -327,6 +331,8 @@ final class TextEdgeTests {
 
     private static void lengths() {
         Check.test("promise 24, parse: a text of 100 bytes is read to its end", () -> {
+            Check.same("bytes", FULL.length(), 100);
+            good(FULL, 3, 2);
             good("n03;" + repeated("0:xxx;", 15) + "4:.x.;", 3, 4);
             faulty("n03;" + repeated("0:xxx;", 15) + "4:.x.:", 99);
         });

@@ -286,8 +286,8 @@ final class TickTests {
         drum.addGuard(3, 1, 20);
         drum.setAir(300, 50);
         int capacity = 150;
-        for (int i = 0; i < 40; i++) {
-            drum.run(11);
+        for (int i = 0; i < 20; i++) {
+            drum.run(22);
             drum.setAir(capacity + 37 * (i % 5), 20 + 10 * (i % 3));
             int used = 0;
             int leaked = 0;
