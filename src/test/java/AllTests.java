@@ -1,10 +1,11 @@
-/** Runs the project's tests; its argument is the path of the program's source. */
+/** Runs the project's tests; its arguments are the paths of the program's source and of the README. */
 public final class AllTests {
     private AllTests() {
     }
 
     public static void main(String[] args) {
         FaceTests.run(args.length > 0 ? args[0] : "src/main/java/CamDrum.java");
+        ReadmeTests.run(args.length > 1 ? args[1] : "README.md");
         SettingTests.run();
         TickTests.run();
         AnswerTests.run();
